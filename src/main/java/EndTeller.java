@@ -51,8 +51,8 @@ public final class EndTeller {
     private final Fraction least = new Fraction();
     private final Tray[] trays = new Tray[MOST_TRAYS];
     private final Table table = new Table();
-    private final Work work = new Work();
-    private final Ways weighed = new Ways(work);
+    private final Ways weighed = new Ways();
+    private final Work work = weighed.work;
     private final Tellings tellings = new Tellings();
 
     public EndTeller() {
@@ -777,8 +777,8 @@ public final class EndTeller {
     }
 
     /** One way at a time, in an order in which the first part's rows turn fastest and causes last. */
-    private static final class Way {
-        final Work work;
+    private static final class Stepper {
+        final Work work = new Work();
         final int[] picked = new int[MOST_PARTS];
         final int[] lateness = new int[MOST_PARTS];
         final int[] endsOn = new int[MOST_PARTS];
@@ -787,10 +787,6 @@ public final class EndTeller {
         int begun = 0;
         int ended = 0;
         int free = 0;
-
-        Way(Work work) {
-            this.work = work;
-        }
 
         void goToFirst() {
             Arrays.fill(picked, 0);
@@ -841,8 +837,7 @@ public final class EndTeller {
             free = work.house;
             beginOn(day, slower);
             for (int k = 0; k < MOST_PARTS && begun != ended; k++) {
-                day = nextEnd();
-                endOn(day);
+                day = endNext();
                 beginOn(day, slower);
             }
             return day;
@@ -869,25 +864,26 @@ public final class EndTeller {
             }
         }
 
-        int nextEnd() {
-            int next = Integer.MAX_VALUE;
+        /* All that end on the next day on which one does end there together, ahead of any that begin. */
+        int endNext() {
             int goOn = begun & ~ended;
+            int day = Integer.MAX_VALUE;
+            int ending = 0;
+            int freed = 0;
             for (int p = 0; p < work.count; p++) {
-                if ((goOn >> p & 1) != 0 && endsOn[p] < next) {
-                    next = endsOn[p];
+                if ((goOn >> p & 1) != 0 && endsOn[p] <= day) {
+                    if (endsOn[p] < day) {
+                        day = endsOn[p];
+                        ending = 0;
+                        freed = 0;
+                    }
+                    ending |= 1 << p;
+                    freed += work.parts[p].holds;
                 }
             }
-            return next;
-        }
-
-        void endOn(int day) {
-            int goOn = begun & ~ended;
-            for (int p = 0; p < work.count; p++) {
-                if ((goOn >> p & 1) != 0 && endsOn[p] == day) {
-                    ended |= 1 << p;
-                    free += work.parts[p].holds;
-                }
-            }
+            ended |= ending;
+            free += freed;
+            return day;
         }
 
         boolean agreesWithWhatCame() {
@@ -907,8 +903,8 @@ public final class EndTeller {
 
     /** All ways of a work with their ends, kept until the work is altered: stepping them is dear. */
     private static final class Ways {
-        final Work work;
-        final Way way;
+        final Stepper way = new Stepper();
+        final Work work = way.work;
         final int[] byDay = new int[LAST_DAY + 1];
         int[] endOf = new int[0];
         int[] weightOf = new int[0];
@@ -917,11 +913,6 @@ public final class EndTeller {
         int lastDay = 0;
         long left = 0;
         long gathered = 0;
-
-        Ways(Work work) {
-            this.work = work;
-            this.way = new Way(work);
-        }
 
         /* Asked only of a work that is neither stuck nor great. */
         void refresh() {
@@ -1042,9 +1033,12 @@ public final class EndTeller {
             }
         }
 
+        /* No way that is left ends behind the last day, so nothing behind it is ever looked at. */
         void emptyDays() {
             gathered = 0;
-            Arrays.fill(byDay, 0);
+            for (int day = 0; day <= lastDay && day <= LAST_DAY; day++) {
+                byDay[day] = 0;
+            }
         }
 
         void gather(int k) {
