@@ -48,7 +48,9 @@ public final class PromiseTests {
         said();
         saidGreat();
         stepping();
+        latestEnd();
         refusedChangesNothing();
+        wellAfterRefusal();
         DUE.close();
     }
 
@@ -336,8 +338,10 @@ public final class PromiseTests {
         rowIs(x, 3, 0, 1, 1);
         rowIs(x, 3, 1, 3, 2);
         DUE.gives(x, "told(3, 1)", x.told(3, 1), 3);
-        DUE.refuses(x, "either(4, 0, ..)", x.either(4, 0, 1, 1, 0), 2);
-        DUE.refuses(x, "either(0, 4, ..)", x.either(0, 4, 1, 1, 0), 2);
+        DUE.gives(x, "either(0, 0, 1, 99, 0)", x.either(0, 0, 1, 99, 0), 4);
+        rowIs(x, 4, 1, 3, 2);
+        DUE.refuses(x, "either(5, 0, ..)", x.either(5, 0, 1, 1, 0), 2);
+        DUE.refuses(x, "either(0, 5, ..)", x.either(0, 5, 1, 1, 0), 2);
         DUE.refuses(x, "either(-1, 0, ..)", x.either(-1, 0, 1, 1, 0), 2);
         DUE.refuses(x, "either 2 ahead of 5", x.either(0, LEAST, 0, 0, -1), 2);
         int[] wrong = {0, 100, -1, LEAST, MOST};
@@ -361,6 +365,8 @@ public final class PromiseTests {
         DUE.gives(x, "told(4, 1)", x.told(4, 1), 40);
         x.fixed(99, 0);
         DUE.refuses(x, "either of 9 rows", x.either(3, 5, 1, 1, 0), 7);
+        x.fixed(0, 0);
+        DUE.refuses(x, "either of 9 rows with day 0", x.either(3, 6, 1, 1, 0), 7);
         x.clear();
         // 1 of 1 and w of a half: 2 and 1, 1; then with weights to 1,000 and past it
         table(x, 0, 1, 1, 2, 499);
@@ -533,6 +539,11 @@ public final class PromiseTests {
         meanIs(x, "with 9", 4, 1);
         DUE.holds(x, "hands(8)", x.hands(8));
         DUE.refuses(x, "mean() with 8", x.mean(), 8);
+        EndTeller y = new EndTeller();
+        y.fixed(1, 2);
+        y.fixed(1, 1);
+        y.hands(1);
+        DUE.refuses(y, "mean() with the first stuck alone", y.mean(), 8);
         DUE.holds(x, "hands(30)", x.hands(30));
         meanIs(x, "with 30", 2, 1);
         DUE.holds(x, "hands(1)", x.hands(1));
@@ -787,6 +798,9 @@ public final class PromiseTests {
         DUE.tells(x, "spread() on day 1", x.spread(), 2 * 2 * 3 * 3, 25);
         x.end(0, 6);
         DUE.tells(x, "spread() of one way", x.spread(), 0, 1);
+        EndTeller y = new EndTeller();
+        table(y, 0, 0, 1, 2, 3);
+        DUE.tells(y, "spread() with an END on day 0", y.spread(), 2 * 3 * 2 / 4, 4);
         x.end(0, 7);
         DUE.refuses(x, "spread() with no ways", x.spread(), 10);
         x.hands(1);
@@ -873,6 +887,7 @@ public final class PromiseTests {
         table(x, 0, 1, 1, 20, 1);
         x.need(3, 2, true);
         DUE.gives(x, "surest() of three in a row", x.surest(), 3);
+        surestByLittle();
         x.today(99);
         DUE.refuses(x, "surest() with no ways", x.surest(), 10);
         x.fixed(1, 2);
@@ -881,6 +896,37 @@ public final class PromiseTests {
         x.clear();
         x.today(99);
         DUE.refuses(x, "surest() of none on a day", x.surest(), 2);
+    }
+
+    /** What is left differs by less than a day. */
+    private static void surestByLittle() {
+        EndTeller x = new EndTeller();
+        table(x, 0, 1, 1, 2, 1);
+        table(x, 0, 1, 1, 2, 2);
+        x.need(1, 0, true);
+        DUE.tells(x, "sure(0)", x.sure(0), 4, 9);
+        DUE.tells(x, "sure(1)", x.sure(1), 1, 2);
+        DUE.gives(x, "surest() of 4 / 9 and 1 / 2", x.surest(), 0);
+        x.clear();
+        table(x, 0, 1, 1, 2, 3);
+        table(x, 0, 1, 1, 2, 1);
+        x.need(1, 0, true);
+        DUE.tells(x, "sure(0)", x.sure(0), 1, 2);
+        DUE.tells(x, "sure(1)", x.sure(1), 3, 8);
+        DUE.gives(x, "surest() of 1 / 2 and 3 / 8", x.surest(), 1);
+        x.clear();
+        // 5 / 9 and 1 / 2: by the weight of all ways, 12, these are 20 / 3 and 6, less than one apart
+        table(x, 0, 1, 1, 2, 1);
+        table(x, 0, 1, 1, 3, 5);
+        x.need(1, 0, true);
+        DUE.tells(x, "sure(0)", x.sure(0), 5, 9);
+        DUE.tells(x, "sure(1)", x.sure(1), 1, 2);
+        DUE.gives(x, "surest() of 5 / 9 and 1 / 2", x.surest(), 1);
+        x.clear();
+        table(x, 0, 1, 1, 3, 5);
+        table(x, 0, 1, 1, 2, 1);
+        x.need(1, 0, true);
+        DUE.gives(x, "surest() of 1 / 2 and 5 / 9", x.surest(), 0);
     }
 
     private static void moves() {
@@ -1143,8 +1189,103 @@ public final class PromiseTests {
         x.fixed(2, 1);
         x.fixed(1, 2);
         x.fixed(1, 2);
+        EndTeller y = new EndTeller();
+        y.hands(1);
+        y.fixed(0, 1);
+        y.fixed(1, 1);
+        y.fixed(1, 1);
+        meanIs(y, "a part of 0 days frees no more hands than it had", 2, 1);
         // both end on day 2 ahead of any that begins, so 2 has two hands then
         meanIs(x, "all that end do so first", 4, 1);
+    }
+
+    /** Ten parts one behind the other, each late by four causes: day 4,950. */
+    private static void latestEnd() {
+        EndTeller x = new EndTeller();
+        x.hands(1);
+        for (int p = 0; p < 10; p++) {
+            x.fixed(99, 1);
+        }
+        for (int c = 0; c < 4; c++) {
+            x.cause(11, 12);
+            for (int p = 0; p < 10; p++) {
+                x.late(p, c, 99);
+            }
+        }
+        DUE.refuses(x, "four causes of 12 are 20,736", x.ways(), 9);
+        x.clear();
+        x.hands(1);
+        for (int p = 0; p < 10; p++) {
+            x.fixed(99, 1);
+        }
+        for (int c = 0; c < 4; c++) {
+            x.cause(1, 2);
+            for (int p = 0; p < 10; p++) {
+                x.late(p, c, 99);
+            }
+        }
+        DUE.gives(x, "promise(0, 1)", x.promise(0, 1), 4950);
+        DUE.gives(x, "promise(1, 16)", x.promise(1, 16), 3960);
+        DUE.tells(x, "ends(4949)", x.ends(4949), 15, 16);
+        meanIs(x, "the latest end", 990 * 3, 1);
+        // 990 times how far two counts of causes are apart: 280 / 256
+        DUE.tells(x, "spread()", x.spread(), 990 * 35 / 2, 16);
+        DUE.tells(x, "sure(0)", x.sure(0), 990 * 35 / 2, 16);
+        DUE.tells(x, "moves(9)", x.moves(9), 1, 1);
+        DUE.tells(x, "done(9, 4949)", x.done(9, 4949), 15, 16);
+        x.end(9, 4950);
+        meanIs(x, "ended on day 4,950", 4950, 1);
+    }
+
+    /** Every call sets STATUS anew, even if it only tells something. */
+    private static void wellAfterRefusal() {
+        EndTeller x = new EndTeller();
+        x.fixed(1, 0);
+        x.cause(1, 2);
+        x.tray(0, 0, 2);
+        x.telling(1, 2, true);
+        boolean[] went = new boolean[29];
+        for (int k = 0; k < went.length; k++) {
+            x.hands(0);
+            DUE.is("status() after hands(0)", x.status(), 5);
+            went[k] = wellCall(x, k);
+            DUE.is("call " + k + " went well", went[k], true);
+            DUE.is("status() after call " + k, x.status(), 0);
+        }
+    }
+
+    private static boolean wellCall(EndTeller x, int k) {
+        switch (k) {
+            case 0: return x.tray(0, 0, 2);
+            case 1: return x.write(0, 0, 1);
+            case 2: return x.read(0, 0) == 1;
+            case 3: return x.pour(0, 0, 0, 1, 1);
+            case 4: return x.part(0, 1, 0) == 1;
+            case 5: return x.fixed(1, 0) == 2;
+            case 6: return x.either(0, 1, 1, 1, 0) == 3;
+            case 7: return x.again(0, 1, 2, 0) == 4;
+            case 8: return x.need(1, 0, true);
+            case 9: return x.cause(1, 2) == 1;
+            case 10: return x.late(0, 0, 1);
+            case 11: return x.hands(30);
+            case 12: return x.told(0, 0) == 1;
+            case 13: return x.row(0, 0, 0) == 1;
+            case 14: return x.ways() == 8;
+            case 15: return x.ends(9);
+            case 16: return x.done(0, 9);
+            case 17: return x.promise(1, 1) == 0;
+            case 18: return x.mean();
+            case 19: return x.spread();
+            case 20: return x.sure(0);
+            case 21: return x.surest() >= 0;
+            case 22: return x.moves(0);
+            case 23: return x.end(0, 1);
+            case 24: return x.today(0);
+            case 25: return x.telling(0, 1, false);
+            case 26: return x.judged(5, 0) == 1;
+            case 27: return x.said(5);
+            default: return x.clear();
+        }
     }
 
     private static void refusedChangesNothing() {
