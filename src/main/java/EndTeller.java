@@ -42,6 +42,8 @@ public final class EndTeller {
     private static final long MOST_SAID = 1L << 40;
     /* All parts one behind the other, each with its dearest row and late by every cause. */
     private static final int LAST_DAY = MOST_PARTS * MOST_DAYS * (1 + MOST_CAUSES);
+    /* Far behind every day on which a part can end. */
+    private static final int NEVER = 1000000;
     /* Euclid's rule needs fewer than a hundred rounds for any two longs. */
     private static final int MOST_ROUNDS = 200;
 
@@ -867,7 +869,7 @@ public final class EndTeller {
         /* All that end on the next day on which one does end there together, ahead of any that begin. */
         int endNext() {
             int goOn = begun & ~ended;
-            int day = Integer.MAX_VALUE;
+            int day = NEVER;
             int ending = 0;
             int freed = 0;
             for (int p = 0; p < work.count; p++) {

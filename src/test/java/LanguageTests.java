@@ -70,12 +70,14 @@ public final class LanguageTests {
             }
         }
         DUE.is("the methods of the face: " + found, found.equals(new TreeSet<>(List.of(FACE))), true);
-        DUE.is("public and final", Modifier.isPublic(face.getModifiers()) && Modifier.isFinal(face.getModifiers()), true);
+        int modifiers = face.getModifiers();
+        DUE.is("public and final", Modifier.isPublic(modifiers) && Modifier.isFinal(modifiers), true);
         Constructor<?>[] constructors = face.getDeclaredConstructors();
         DUE.is("one constructor", constructors.length, 1);
         DUE.is("without parameters", constructors[0].getParameterCount(), 0);
         for (Field f : face.getDeclaredFields()) {
-            DUE.is(f + " is private, or NONE", Modifier.isPrivate(f.getModifiers()) || f.getName().equals("NONE"), true);
+            boolean isNone = f.getName().equals("NONE");
+            DUE.is(f + " is private, or NONE", isNone || Modifier.isPrivate(f.getModifiers()), true);
         }
         for (Class<?> c : face.getDeclaredClasses()) {
             for (Method m : c.getDeclaredMethods()) {
@@ -119,8 +121,7 @@ public final class LanguageTests {
             DUE.is("import of " + imports.group(1), imports.group(1).equals("java.util.Arrays"), true);
         }
         Matcher library = Pattern.compile("\\b(System|Arrays|Math|Integer|Long)\\.(\\w+)").matcher(text);
-        Set<String> allowed = Set.of("System.arraycopy", "Arrays.fill", "Math.max", "Math.min", "Integer.bitCount",
-            "Integer.MAX_VALUE");
+        Set<String> allowed = Set.of("System.arraycopy", "Arrays.fill", "Math.max", "Math.min", "Integer.bitCount");
         while (library.find()) {
             DUE.is("use of " + library.group(), allowed.contains(library.group()), true);
         }
