@@ -54,13 +54,8 @@ public final class PromiseTests {
         DUE.close();
     }
 
-    /** Writes DAYS and WEIGHT in turn to tray 3 and makes a PART of them. */
     private static int table(EndTeller x, int hands, int... numbers) {
-        x.tray(3, 2, numbers.length);
-        for (int k = 0; k < numbers.length; k++) {
-            x.write(3, k, numbers[k]);
-        }
-        return x.part(3, numbers.length / 2, hands);
+        return Lay.table(x, hands, numbers);
     }
 
     private static void rowIs(EndTeller x, int part, int k, int days, int weight) {
