@@ -1004,7 +1004,7 @@ public final class EndTeller {
         int leastDayAtRisk(int n, int d) {
             gatherAll();
             long behind = left;
-            for (int day = 0; day < lastDay; day++) {
+            for (int day = 0; day < lastDay && day <= LAST_DAY; day++) {
                 behind -= byDay[day];
                 if (behind * d <= n * left) {
                     return day;
@@ -1058,7 +1058,7 @@ public final class EndTeller {
         long sumApart() {
             long before = 0;
             long sum = 0;
-            for (int day = 0; day < lastDay; day++) {
+            for (int day = 0; day < lastDay && day <= LAST_DAY; day++) {
                 before += byDay[day];
                 sum += before * (gathered - before);
             }
